@@ -35,12 +35,8 @@ public final class WarByHours {
     private final Cannon turns = new Cannon(told);
     private final Slots slots = new Slots();
     private final War[] images = new War[IMAGES];
-    private final boolean[] kept = new boolean[IMAGES];
 
     public WarByHours() {
-        for (int k = 0; k < IMAGES; k++) {
-            images[k] = new War();
-        }
     }
 
     public int feed(int a, int b, int c, int d, int e) {
@@ -466,8 +462,12 @@ public final class WarByHours {
         if (!isImage(k)) {
             return NONE_SUCH;
         }
-        images[k].become(told);
-        kept[k] = true;
+        War image = images[k];
+        if (image == null) {
+            image = new War();
+            images[k] = image;
+        }
+        image.become(told);
         return 0;
     }
 
@@ -475,10 +475,11 @@ public final class WarByHours {
         if (!isImage(k)) {
             return NONE_SUCH;
         }
-        if (!kept[k]) {
+        War image = images[k];
+        if (image == null) {
             return NOTHING;
         }
-        told.become(images[k]);
+        told.become(image);
         course.forget();
         return 0;
     }
@@ -674,9 +675,9 @@ public final class WarByHours {
             return isTold() && set >= 0 && set < sets();
         }
 
-        /** How many sets of TRAINS there are. */
+        /** How many sets of TRAINS there are: no more than the rows by sets have room for. */
         int sets() {
-            return 1 << trains.size;
+            return Math.min(1 << trains.size, MOST_SETS);
         }
 
         int needOf(int side) {
@@ -1238,7 +1239,7 @@ public final class WarByHours {
         }
 
         private void moveEnds(int steps) {
-            for (int set = 0; set < war.sets() && set < MOST_SETS; set++) {
+            for (int set = 0; set < war.sets(); set++) {
                 ends[set] += steps * signOf(men[set]);
             }
         }
@@ -1247,11 +1248,11 @@ public final class WarByHours {
             Arrays.fill(winners, 0);
             for (int side = 0; side < 2; side++) {
                 takeMen(war.lateMinute, 1 - side, side);
-                for (int set = 0; set < war.sets() && set < MOST_SETS; set++) {
+                for (int set = 0; set < war.sets(); set++) {
                     winners[set] |= men[set] < war.needOf(side) ? 1 << side : 0;
                 }
             }
-            for (int set = 0; set < war.sets() && set < MOST_SETS; set++) {
+            for (int set = 0; set < war.sets(); set++) {
                 winners[set] = winner(winners[set], ends[set]);
             }
         }
@@ -1315,7 +1316,7 @@ public final class WarByHours {
             fitByChance(side, 100);
             int own = war.trainsOf(side);
             int fewest = NONE;
-            for (int set = 0; set < war.sets() && set < MOST_SETS; set++) {
+            for (int set = 0; set < war.sets(); set++) {
                 int size = Integer.bitCount(set);
                 if ((set & ~own) == 0 && fits[set] && (fewest == NONE || size < fewest)) {
                     fewest = size;
@@ -1359,7 +1360,7 @@ public final class WarByHours {
             takePrices();
             int own = war.trainsOf(side);
             int found = 0;
-            for (int set = 1; set < war.sets() && set < MOST_SETS; set++) {
+            for (int set = 1; set < war.sets(); set++) {
                 if ((set & ~own) == 0 && prices[set] <= n && course.goodAtEnd(side, set) < course.goodAtEnd(side, found)) {
                     found = set;
                 }
@@ -1372,7 +1373,7 @@ public final class WarByHours {
             meetAnswers(side, n);
             int own = war.trainsOf(side);
             int answered = PRICELESS;
-            for (int set = 0; set < war.sets() && set < MOST_SETS; set++) {
+            for (int set = 0; set < war.sets(); set++) {
                 if ((set & ~own) == 0 && prices[set] <= n) {
                     answered = Math.min(answered, best[set]);
                 }
@@ -1386,7 +1387,7 @@ public final class WarByHours {
             meetAnswers(0, n);
             int own = war.trainsOf(0);
             int rests = 0;
-            for (int set = 0; set < war.sets() && set < MOST_SETS; set++) {
+            for (int set = 0; set < war.sets(); set++) {
                 int front = course.goodAtEnd(0, set);
                 if (isBought(set, own, n) && front == best[set & own] && front == least[set & ~own]) {
                     rests++;
@@ -1401,7 +1402,7 @@ public final class WarByHours {
             Arrays.fill(best, -PRICELESS);
             Arrays.fill(least, PRICELESS);
             int own = war.trainsOf(side);
-            for (int set = 0; set < war.sets() && set < MOST_SETS; set++) {
+            for (int set = 0; set < war.sets(); set++) {
                 if (isBought(set, own, n)) {
                     int good = course.goodAtEnd(side, set);
                     best[set & own] = Math.max(best[set & own], good);
@@ -1429,7 +1430,7 @@ public final class WarByHours {
                 boolean isOwn = war.trains.cell(train, War.SIDE) == side;
                 War.spread(men, train, isOwn ? -war.menLost(train, war.lateMinute) : 0);
             }
-            for (int set = 0; set < war.sets() && set < MOST_SETS; set++) {
+            for (int set = 0; set < war.sets(); set++) {
                 fits[set] = men[set] < war.needOf(side);
             }
         }
@@ -1438,7 +1439,7 @@ public final class WarByHours {
         private void fitByChance(int side, int n) {
             takeParts(side);
             fits[0] = parts[0] * 100 >= n;
-            for (int set = 1; set < war.sets() && set < MOST_SETS; set++) {
+            for (int set = 1; set < war.sets(); set++) {
                 fits[set] = parts[set] >= n * Chances.hundreds(Integer.bitCount(set) - 1);
             }
         }
@@ -1450,7 +1451,7 @@ public final class WarByHours {
                 boolean counts = war.trains.cell(train, War.SIDE) == side && war.arrival(train, 0) <= war.lateMinute;
                 War.spread(men, train, counts ? war.trains.cell(train, War.MEN) : 0);
             }
-            for (int set = 0; set < war.sets() && set < MOST_SETS; set++) {
+            for (int set = 0; set < war.sets(); set++) {
                 parts[set] = men[set] >= war.needOf(side) ? 1 : 0;
             }
             for (int train = 0; train < war.trains.size; train++) {
@@ -1462,7 +1463,7 @@ public final class WarByHours {
         private void mayBeLate(int train) {
             int bit = 1 << train;
             int odds = war.menLost(train, war.lateMinute) > 0 ? war.trains.cell(train, War.ODDS) : 0;
-            for (int set = 0; set < war.sets() && set < MOST_SETS; set++) {
+            for (int set = 0; set < war.sets(); set++) {
                 if ((set & bit) != 0) {
                     parts[set] = (100 - odds) * parts[set] + odds * parts[set ^ bit];
                 }
@@ -1473,7 +1474,7 @@ public final class WarByHours {
         private int cheapest(int among) {
             int found = NONE;
             int lowest = PRICELESS;
-            for (int set = 0; set < war.sets() && set < MOST_SETS; set++) {
+            for (int set = 0; set < war.sets(); set++) {
                 if ((set & ~among) == 0 && fits[set] && prices[set] < lowest) {
                     lowest = prices[set];
                     found = set;

@@ -43,6 +43,7 @@ public final class PromiseTest {
         counts();
         imagesOfAll();
         rowsOfNumbers();
+        numbersInside();
         CHECK.finish();
     }
 
@@ -168,6 +169,12 @@ public final class PromiseTest {
         bad(" 5", 1, 1);
         bad("War minutes", 1, 0);
         bad("warminutes 5", 1, 0);
+        bad("warz minutes 5", 1, 0);
+        bad("warA minutes 5", 1, 3);
+        bad("war minutes 5/", 1, 13);
+        bad("war minutes 5:", 1, 13);
+        bad("war minutes 5`", 1, 13);
+        bad("war minutes 5{", 1, 13);
         bad("war minutes 0 late 0 peace 0 rain 0;", 2, 12);
         bad("war minutes 61 late 0 peace 0 rain 0;", 2, 12);
         bad("war minutes 5 late 5 peace 0 rain 0;", 2, 19);
@@ -442,6 +449,7 @@ public final class PromiseTest {
         WarByHours z = told(SMALL);
         due("no RULES", new int[] {z.readings(9), (int) z.loopholes(), z.close(9), z.closed(9), z.signs()}, 1, 0, -1, -1, 0);
         due("signs behind a RULE", told(SMALL + "rule 0 to 4;").signs(), 5);
+        due("signs in the last MINUTE", told(SMALL + "rule 0 to 58;").signs(), 59);
     }
 
     /** Promises 48 and 49. */
@@ -495,6 +503,10 @@ public final class PromiseTest {
             1, 1, 0, 1, 1);
         WarByHours z = told("war minutes 1 late 0 peace 0 rain 100;");
         due("nothing but rain", new int[] {(int) z.dry(9, 0, 0), (int) z.dry(9, 9, 0), z.insist(0), z.insist(1), z.insist(100)}, 1, 0, 1, -1, -1);
+        due("insist 60 times", told("war minutes 1 late 0 peace 0 rain 98;").insist(70), 60);
+        due("not 61 times", told("war minutes 1 late 0 peace 0 rain 97;").insist(84), -1);
+        due("just so little", new int[] {told("war minutes 1 late 0 peace 0 rain 51;").insist(49),
+            told("war minutes 1 late 0 peace 0 rain 51;").insist(50)}, 1, 2);
         WarByHours v = told("war minutes 1 late 0 peace 0 rain 99;");
         due("99 to the ninth", v.dry(9, 0, 0), 913517247483640899L);
         due("of 100 to the ninth", v.dry(9, 0, 1), 1000000000000000000L);
@@ -574,6 +586,51 @@ public final class PromiseTest {
         due("TAPE and SLOTS stay", new int[] {x.count(10), x.count(12)}, 20, 1);
         due("back(1)", x.back(1), 0);
         noWar(x);
+    }
+
+    /** No call tells the numbers of a row, so they are looked at inside. */
+    private static long number(WarByHours x, int slot, int i) {
+        try {
+            java.lang.reflect.Field field = WarByHours.class.getDeclaredField("slots");
+            field.setAccessible(true);
+            Object slots = field.get(x);
+            java.lang.reflect.Field numbers = slots.getClass().getDeclaredField("numbers");
+            numbers.setAccessible(true);
+            return ((long[]) numbers.get(slots))[60 * slot + i];
+        } catch (ReflectiveOperationException e) {
+            throw new IllegalStateException(e);
+        }
+    }
+
+    private static void numbersInside() {
+        WarByHours x = new WarByHours();
+        long v = 0x1122334455667788L;
+        long[] cut = {(byte) 0x88, 0x7788, 0x55667788, v};
+        for (int width = 0; width < 4; width++) {
+            x.row(width, width, 3);
+            x.write(width, 1, v);
+            due("number 0 of WIDTH " + width, number(x, width, 0), 0);
+            due("number 1 of WIDTH " + width, number(x, width, 1), cut[width]);
+            x.write(width, 1, -1);
+            due("-1 of WIDTH " + width, number(x, width, 1), -1);
+            x.row(width, width, 3);
+            due("a new row is all 0", number(x, width, 1), 0);
+        }
+        x.row(0, 2, 5);
+        for (int i = 0; i < 5; i++) {
+            x.write(0, i, 10 + i);
+        }
+        x.paste(0, 0, 0, 1, 4);
+        due("paste on its own, upwards", new int[] {(int) number(x, 0, 0), (int) number(x, 0, 1), (int) number(x, 0, 4)}, 10, 10, 13);
+        x.paste(0, 1, 0, 0, 4);
+        due("downwards", new int[] {(int) number(x, 0, 0), (int) number(x, 0, 3), (int) number(x, 0, 4)}, 10, 13, 13);
+        x.row(1, 2, 3);
+        x.paste(0, 2, 1, 1, 2);
+        due("to another one", new int[] {(int) number(x, 1, 0), (int) number(x, 1, 1), (int) number(x, 1, 2)}, 0, 12, 13);
+        due("beyond", x.paste(0, 3, 1, 0, 3), -7);
+        due("nothing happens", new int[] {(int) number(x, 1, 0), (int) number(x, 1, 1), (int) number(x, 1, 2)}, 0, 12, 13);
+        x.row(1, 2, -1);
+        due("the SLOT stays", number(x, 1, 1), 12);
     }
 
     /** Promises 68 to 70. */
