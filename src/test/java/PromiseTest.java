@@ -123,6 +123,7 @@ public final class PromiseTest {
         due("TAPE is empty then", x.count(10), 0);
         due("a FAULT", Texts.war(x, "war;"), -4);
         due("the WAR stays", new int[] {x.count(9), x.front(10, 0), x.train(0, 1)}, 15, 5, 6);
+        due("the TAPE is empty behind a FAULT too", x.count(10), 0);
         x.needs(0, 3);
         due("a FAULT", Texts.war(x, "war;"), -4);
         due("changes stay", new int[] {x.count(11), x.need(0), x.undo(), x.need(0)}, 1, 3, 0, 10);
