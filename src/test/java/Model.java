@@ -144,12 +144,11 @@ public final class Model {
     }
 
     public int war() {
-        String text = tape.toString();
-        tape.setLength(0);
         fault = 0;
         place = -1;
         try {
-            Told t = parse(text);
+            Told t = parse(tape.toString());
+            tape.setLength(0);
             w = t.lines == 0 ? null : t;
             return t.lines;
         } catch (Fault f) {

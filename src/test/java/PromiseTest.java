@@ -123,7 +123,10 @@ public final class PromiseTest {
         due("TAPE is empty then", x.count(10), 0);
         due("a FAULT", Texts.war(x, "war;"), -4);
         due("the WAR stays", new int[] {x.count(9), x.front(10, 0), x.train(0, 1)}, 15, 5, 6);
-        due("the TAPE is empty behind a FAULT too", x.count(10), 0);
+        due("the TAPE stays too", new int[] {x.count(10), x.war(), x.fault(0), x.fault(1), x.count(10)}, 4, -4, 1, 3, 4);
+        due("so it can be mended", new int[] {x.end(3), x.feed(0x206d696e, 0x75746573, 0x2035206c, 0x61746520, 0x32207065),
+            x.feed(0x61636520, 0x30207261, 0x696e2030, 0x3b202020, 0x20202020), x.war(), x.fault(0), x.count(10)}, 3, 23, 43, 1, 0, 0);
+        Texts.war(x, TEXT);
         x.needs(0, 3);
         due("a FAULT", Texts.war(x, "war;"), -4);
         due("changes stay", new int[] {x.count(11), x.need(0), x.undo(), x.need(0)}, 1, 3, 0, 10);
