@@ -57,10 +57,10 @@ public final class WarByHours {
 
     public int war() {
         reader.read();
+        reader.cut(0);
         if (reader.fault != 0) {
             return FAULTY;
         }
-        reader.cut(0);
         told.become(draft);
         course.forget();
         return told.lines;

@@ -144,11 +144,12 @@ public final class Model {
     }
 
     public int war() {
+        String text = tape.toString();
+        tape.setLength(0);
         fault = 0;
         place = -1;
         try {
-            Told t = parse(tape.toString());
-            tape.setLength(0);
+            Told t = parse(text);
             w = t.lines == 0 ? null : t;
             return t.lines;
         } catch (Fault f) {

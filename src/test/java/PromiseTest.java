@@ -2,22 +2,8 @@
 public final class PromiseTest {
     private static final Check CHECK = new Check("PromiseTest");
 
-    private static final String HEAD = "war minutes 10 late 4 peace 2 rain 30;";
-
-    /**
-     * FRONT behind 0 .. 10 MINUTES without DELAYS: 0 1 0 1 2 2 2 2 3 4 5; by TRAIN 0 late: 0 1 0 -1 -2 -2 -2 -2 -1 0 1.
-     * FRONT in the end by the DELAYS 0 .. 7: 5 1 4 0 7 7 5 5; LATE: 0 1 0 1 2 3 2 3; so who WINS: 0 1 0 1 0 0 0 0.
-     */
-    private static final String TEXT = HEAD + "need 0 10;need 1 8;"
-        + "train 0 men 6 due 2 odds 10 by 3 price 3;"
-        + "train 0 men 6 due 0 odds 20 by 2 price 2;"
-        + "train 1 men 9 due 1 odds 50 by 4 price 4;"
-        + "tea 4 to 6;"
-        + "cannon 0 at 0 for 3 worth 5;cannon 1 at 2 for 2 worth 4;cannon 0 at 3 for 2 worth 3;"
-        + "rule 2 to 5;rule 5 to 7;"
-        + "spy knows 0 1;spy knows 2 1;spy knows 0 0;";
-
-    private static final String SMALL = "war minutes 5 late 2 peace 0 rain 0;";
+    private static final String TEXT = Texts.WHOLE;
+    private static final String SMALL = Texts.SMALL;
 
     public static void main(String[] args) {
         newObject();
@@ -123,10 +109,7 @@ public final class PromiseTest {
         due("TAPE is empty then", x.count(10), 0);
         due("a FAULT", Texts.war(x, "war;"), -4);
         due("the WAR stays", new int[] {x.count(9), x.front(10, 0), x.train(0, 1)}, 15, 5, 6);
-        due("the TAPE stays too", new int[] {x.count(10), x.war(), x.fault(0), x.fault(1), x.count(10)}, 4, -4, 1, 3, 4);
-        due("so it can be mended", new int[] {x.end(3), x.feed(0x206d696e, 0x75746573, 0x2035206c, 0x61746520, 0x32207065),
-            x.feed(0x61636520, 0x30207261, 0x696e2030, 0x3b202020, 0x20202020), x.war(), x.fault(0), x.count(10)}, 3, 23, 43, 1, 0, 0);
-        Texts.war(x, TEXT);
+        due("the TAPE is empty behind a FAULT too", new int[] {x.count(10), x.end(1)}, 0, -1);
         x.needs(0, 3);
         due("a FAULT", Texts.war(x, "war;"), -4);
         due("changes stay", new int[] {x.count(11), x.need(0), x.undo(), x.need(0)}, 1, 3, 0, 10);
