@@ -57,9 +57,7 @@ public final class BoundsTest {
     }
 
     private static WarByHours told(String text) {
-        WarByHours x = new WarByHours();
-        CHECK.that("not a WAR: " + text, Texts.war(x, text) > 0);
-        return x;
+        return Texts.told(CHECK, text);
     }
 
     private static WarByHours whole() {

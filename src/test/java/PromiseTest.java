@@ -45,9 +45,7 @@ public final class PromiseTest {
     }
 
     private static WarByHours told(String text) {
-        WarByHours x = new WarByHours();
-        CHECK.that("not a WAR: " + text, Texts.war(x, text) > 0);
-        return x;
+        return Texts.told(CHECK, text);
     }
 
     /** Promise 1: no WAR, so what asks for one has none. */
@@ -575,20 +573,7 @@ public final class PromiseTest {
         noWar(x);
     }
 
-    /** No call tells the numbers of a row, so they are looked at inside. */
-    private static long number(WarByHours x, int slot, int i) {
-        try {
-            java.lang.reflect.Field field = WarByHours.class.getDeclaredField("slots");
-            field.setAccessible(true);
-            Object slots = field.get(x);
-            java.lang.reflect.Field numbers = slots.getClass().getDeclaredField("numbers");
-            numbers.setAccessible(true);
-            return ((long[]) numbers.get(slots))[60 * slot + i];
-        } catch (ReflectiveOperationException e) {
-            throw new IllegalStateException(e);
-        }
-    }
-
+    /** Promises 68 to 70: what a row has. */
     private static void numbersInside() {
         WarByHours x = new WarByHours();
         long v = 0x1122334455667788L;
@@ -596,28 +581,28 @@ public final class PromiseTest {
         for (int width = 0; width < 4; width++) {
             x.row(width, width, 3);
             x.write(width, 1, v);
-            due("number 0 of WIDTH " + width, number(x, width, 0), 0);
-            due("number 1 of WIDTH " + width, number(x, width, 1), cut[width]);
+            due("number 0 of WIDTH " + width, Rows.number(x, width, 0), 0);
+            due("number 1 of WIDTH " + width, Rows.number(x, width, 1), cut[width]);
             x.write(width, 1, -1);
-            due("-1 of WIDTH " + width, number(x, width, 1), -1);
+            due("-1 of WIDTH " + width, Rows.number(x, width, 1), -1);
             x.row(width, width, 3);
-            due("a new row is all 0", number(x, width, 1), 0);
+            due("a new row is all 0", Rows.number(x, width, 1), 0);
         }
         x.row(0, 2, 5);
         for (int i = 0; i < 5; i++) {
             x.write(0, i, 10 + i);
         }
         x.paste(0, 0, 0, 1, 4);
-        due("paste on its own, upwards", new int[] {(int) number(x, 0, 0), (int) number(x, 0, 1), (int) number(x, 0, 4)}, 10, 10, 13);
+        due("paste on its own, upwards", new int[] {(int) Rows.number(x, 0, 0), (int) Rows.number(x, 0, 1), (int) Rows.number(x, 0, 4)}, 10, 10, 13);
         x.paste(0, 1, 0, 0, 4);
-        due("downwards", new int[] {(int) number(x, 0, 0), (int) number(x, 0, 3), (int) number(x, 0, 4)}, 10, 13, 13);
+        due("downwards", new int[] {(int) Rows.number(x, 0, 0), (int) Rows.number(x, 0, 3), (int) Rows.number(x, 0, 4)}, 10, 13, 13);
         x.row(1, 2, 3);
         x.paste(0, 2, 1, 1, 2);
-        due("to another one", new int[] {(int) number(x, 1, 0), (int) number(x, 1, 1), (int) number(x, 1, 2)}, 0, 12, 13);
+        due("to another one", new int[] {(int) Rows.number(x, 1, 0), (int) Rows.number(x, 1, 1), (int) Rows.number(x, 1, 2)}, 0, 12, 13);
         due("beyond", x.paste(0, 3, 1, 0, 3), -7);
-        due("nothing happens", new int[] {(int) number(x, 1, 0), (int) number(x, 1, 1), (int) number(x, 1, 2)}, 0, 12, 13);
+        due("nothing happens", new int[] {(int) Rows.number(x, 1, 0), (int) Rows.number(x, 1, 1), (int) Rows.number(x, 1, 2)}, 0, 12, 13);
         x.row(1, 2, -1);
-        due("the SLOT stays", number(x, 1, 1), 12);
+        due("the SLOT stays", Rows.number(x, 1, 1), 12);
     }
 
     /** Promises 68 to 70. */

@@ -1,4 +1,3 @@
-import java.lang.reflect.Field;
 import java.util.ArrayList;
 import java.util.List;
 import java.util.function.Supplier;
@@ -43,9 +42,7 @@ public final class RefusalTest {
     // ---- what there is
 
     private static WarByHours told(String text) {
-        WarByHours x = new WarByHours();
-        CHECK.that("not a WAR: " + text, Texts.war(x, text) > 0);
-        return x;
+        return Texts.told(CHECK, text);
     }
 
     /** A WAR with changes, two IMAGES, two rows, and a text on the TAPE. */
@@ -229,7 +226,7 @@ public final class RefusalTest {
     /** What is told now; behind all changes taken back; of each IMAGE; of the text on the TAPE; and the rows. */
     private static String all(WarByHours x) {
         StringBuilder out = new StringBuilder();
-        out.append(rows(x)).append(" fault ").append(x.fault(0)).append(' ').append(x.fault(1)).append(" tape ").append(x.count(10));
+        out.append(Rows.all(x)).append(" fault ").append(x.fault(0)).append(' ').append(x.fault(1)).append(" tape ").append(x.count(10));
         out.append(" now").append(war(x));
         for (int changes = x.count(11); changes > 0; changes--) {
             out.append(" undo ").append(x.undo()).append(' ').append(x.train(1, 5));
@@ -256,38 +253,6 @@ public final class RefusalTest {
         out.append(" tea ").append(x.tea(0)).append(x.tea(4)).append(" asks ").append(x.granted()).append(" rules ").append(x.loopholes());
         out.append(" spies ").append(x.spy(0)).append(' ').append(x.spy(1)).append(" worst ").append(x.worst(0)).append(" wins ").append(x.wins(0));
         return out.toString();
-    }
-
-    /** No call tells the numbers of a row, so they are looked at inside. */
-    private static String rows(WarByHours x) {
-        StringBuilder out = new StringBuilder("rows");
-        boolean[] has = (boolean[]) inside(x, "has");
-        int[] widths = (int[]) inside(x, "widths");
-        int[] sizes = (int[]) inside(x, "sizes");
-        for (int slot = 0; slot < 4; slot++) {
-            out.append(" [").append(has[slot] ? widths[slot] + " of " + sizes[slot] + ":" : "nothing");
-            for (int i = 0; has[slot] && i < sizes[slot]; i++) {
-                out.append(' ').append(number(x, slot, i));
-            }
-            out.append(']');
-        }
-        return out.toString();
-    }
-
-    private static long number(WarByHours x, int slot, int i) {
-        return ((long[]) inside(x, "numbers"))[60 * slot + i];
-    }
-
-    private static Object inside(WarByHours x, String name) {
-        try {
-            Field slots = WarByHours.class.getDeclaredField("slots");
-            slots.setAccessible(true);
-            Field field = slots.get(x).getClass().getDeclaredField(name);
-            field.setAccessible(true);
-            return field.get(slots.get(x));
-        } catch (ReflectiveOperationException e) {
-            throw new IllegalStateException(e);
-        }
     }
 
     // ---- what stays beside what changes
@@ -319,13 +284,13 @@ public final class RefusalTest {
     /** Promise 67: back() is of the WAR and its changes alone. */
     private static void backLeavesTapeAndSlots() {
         WarByHours x = rich();
-        String was = rows(x);
+        String was = Rows.all(x);
         CHECK.due("back(2)", x.back(2), 0);
         CHECK.due("TRAINS", x.count(4), 1);
         CHECK.due("price", x.train(0, 5), 77);
         CHECK.due("changes", x.count(11), 1);
         CHECK.due("bytes of the TAPE", x.count(10), 45);
-        CHECK.that("rows stay", rows(x).equals(was));
+        CHECK.that("rows stay", Rows.all(x).equals(was));
         CHECK.due("undo()", x.undo(), 0);
         CHECK.due("back(2) again: what was changed since is gone", x.back(2), 0);
         CHECK.due("changes", x.count(11), 1);
@@ -335,7 +300,7 @@ public final class RefusalTest {
         CHECK.due("need(0)", x.need(0), 11);
         CHECK.due("odds, not changed then", x.train(2, 3), 50);
         CHECK.due("image(0)", x.image(0), 0);
-        CHECK.that("rows stay", rows(x).equals(was));
+        CHECK.that("rows stay", Rows.all(x).equals(was));
     }
 
     /** Promises 68 to 70: numbers are cut to their WIDTH, and put as they were. */
@@ -357,7 +322,7 @@ public final class RefusalTest {
             }
             x.row(width, 3 - width, 60);
             for (int i = 0; i < 60; i++) {
-                CHECK.due("a row in place of another one is all 0", number(x, width, i), 0);
+                CHECK.due("a row in place of another one is all 0", Rows.number(x, width, i), 0);
             }
         }
         WarByHours x = new WarByHours();
@@ -367,25 +332,25 @@ public final class RefusalTest {
             x.write(0, i, i + 1);
         }
         x.paste(0, 0, 1, 0, 60);
-        CHECK.due("60 numbers, the first", number(x, 1, 0), 1);
-        CHECK.due("60 numbers, the last", number(x, 1, 59), 60);
+        CHECK.due("60 numbers, the first", Rows.number(x, 1, 0), 1);
+        CHECK.due("60 numbers, the last", Rows.number(x, 1, 59), 60);
         x.paste(0, 0, 0, 1, 59);
-        CHECK.due("its own, upwards, the first", number(x, 0, 1), 1);
-        CHECK.due("its own, upwards, the last", number(x, 0, 59), 59);
+        CHECK.due("its own, upwards, the first", Rows.number(x, 0, 1), 1);
+        CHECK.due("its own, upwards, the last", Rows.number(x, 0, 59), 59);
         x.paste(1, 1, 1, 0, 59);
-        CHECK.due("its own, downwards, the first", number(x, 1, 0), 2);
-        CHECK.due("its own, downwards, the last", number(x, 1, 58), 60);
-        CHECK.due("its own, downwards, behind it", number(x, 1, 59), 60);
+        CHECK.due("its own, downwards, the first", Rows.number(x, 1, 0), 2);
+        CHECK.due("its own, downwards, the last", Rows.number(x, 1, 58), 60);
+        CHECK.due("its own, downwards, behind it", Rows.number(x, 1, 59), 60);
         x.row(2, 0, 2);
         x.paste(0, 59, 2, 1, 1);
-        CHECK.due("one number", number(x, 2, 1), 59);
-        CHECK.due("not the other one", number(x, 2, 0), 0);
+        CHECK.due("one number", Rows.number(x, 2, 1), 59);
+        CHECK.due("not the other one", Rows.number(x, 2, 0), 0);
     }
 
     private static void written(WarByHours x, int width, long v, long want) {
         for (int i : new int[] {0, 59}) {
             CHECK.due("write(" + width + ", " + i + ", " + v + ")", x.write(width, i, v), 0);
-            CHECK.due(v + " cut to WIDTH " + width, number(x, width, i), want);
+            CHECK.due(v + " cut to WIDTH " + width, Rows.number(x, width, i), want);
         }
     }
 }

@@ -38,9 +38,7 @@ public final class TermsTest {
     }
 
     private static WarByHours told(String text) {
-        WarByHours x = new WarByHours();
-        CHECK.that("not a WAR: " + text, Texts.war(x, text) > 0);
-        return x;
+        return Texts.told(CHECK, text);
     }
 
     private static String head(int minutes, int late, int peace, int rain) {

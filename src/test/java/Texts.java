@@ -45,4 +45,10 @@ final class Texts {
         put(x, text);
         return x.war();
     }
+
+    static WarByHours told(Check check, String text) {
+        WarByHours x = new WarByHours();
+        check.that("not a WAR: " + text, war(x, text) > 0);
+        return x;
+    }
 }
